@@ -132,7 +132,11 @@ public final class SlottedMesh {
             return NONE;
         }
         for (int k = 0; k < n; k++) {
-            passSlot();
+            driftClocks();
+            if (active.made) {
+                playCells(Math.floorMod(time, slots));
+            }
+            time++;
         }
         return time;
     }
@@ -223,14 +227,13 @@ public final class SlottedMesh {
         return channel >= 0 && channel < channels;
     }
 
-    private void passSlot() {
+    private void driftClocks() {
         for (int k = 0; k < nodes.length; k++) {
-            nodes[k].passTime();
+            // The gateway's drift can't be set, so its clock stays.
+            if (nodes[k].started) {
+                nodes[k].clock += nodes[k].clockDrift;
+            }
         }
-        if (active.made) {
-            playCells(Math.floorMod(time, slots));
-        }
-        time++;
     }
 
     private void playCells(int slot) {
@@ -408,13 +411,6 @@ public final class SlottedMesh {
             int own = downsTaken[number];
             Arrays.fill(downsTaken, 0);
             downsTaken[number] = own;
-        }
-
-        void passTime() {
-            // The gateway's drift can't be set, so its clock stays.
-            if (started) {
-                clock += clockDrift;
-            }
         }
 
         boolean clockIsCloseTo(Node other) {
