@@ -36,16 +36,15 @@ public final class RadioTest {
             mesh.plan();
             mesh.start(1);
             mesh.radio(0, 1L << bit, 0L);
-            int time = 0;
-            while (time < 640 && !mesh.current(1)) {
-                time = mesh.run(1);
-            }
             // The advert of 0 stands at the multiples of nine; one of them is at each bit.
             int due = 0;
             while (due % 64 != bit) {
+                CHECK.due("the advert at " + due + " is unheard", mesh.run(9), due + 9);
                 due += 9;
             }
-            CHECK.due("joined at bit " + bit, time, due + 1);
+            CHECK.due("not joined before bit " + bit, mesh.current(1), false);
+            mesh.run(1);
+            CHECK.due("joined at bit " + bit, mesh.current(1), true);
         }
     }
 
