@@ -18,6 +18,9 @@ public final class NumberEdgesTest {
         sourcesAreApart();
         targetsAreApart();
         theSameCommandIsKnown();
+        aSourceTakesItsOwnFrameOnce();
+        aSourceTakesAGreaterNumberOfItsOwn();
+        joiningForgetsNoCommand();
         CHECK.end("NumberEdgesTest");
     }
 
@@ -195,5 +198,71 @@ public final class NumberEdgesTest {
         mesh.run(10);
         CHECK.due("time 47: one more is taken", mesh.actuator(2), 6);
         CHECK.due("none left", mesh.count(1, 1), 0);
+    }
+
+    /**
+     * Two samples of 2 at 1, then a plan in which 2 lies between 0 and 1. Slots: 0 advert of 0, 1 of 2, 2 of 1,
+     * 3 up 2 to 0, 4 down 0 to 2, 5 up 1 to 2, 6 down 2 to 1. Time 26.
+     */
+    private static SlottedMesh turned() {
+        SlottedMesh mesh = Meshes.chain();
+        mesh.pair(0, 1, false);
+        mesh.sample(2, 5);
+        mesh.sample(2, 6);
+        mesh.run(16);
+        CHECK.due("both are at 1", mesh.count(1, 0), 2);
+        mesh.pair(0, 2, true);
+        CHECK.due("plan", mesh.plan(), 7);
+        CHECK.due("2 is above 1 now", mesh.parent(1, 0), 2);
+        return mesh;
+    }
+
+    /** The rule is that of every b: sample() is no taking, and what the source took it knows. */
+    private static void aSourceTakesItsOwnFrameOnce() {
+        SlottedMesh mesh = turned();
+        mesh.radio(0, -1L, Meshes.allBut(35));
+        mesh.run(10);
+        CHECK.due("time 36: taken by its source", mesh.count(2, 0), 1);
+        CHECK.due("not confirmed", mesh.count(1, 0), 2);
+        CHECK.due("a fail", mesh.count(1, 2), 1);
+        mesh.run(8);
+        CHECK.due("time 44: it came to 0", mesh.latest(2), 1);
+        CHECK.due("2 has none", mesh.count(2, 0), 0);
+        mesh.run(2);
+        CHECK.due("time 46: known to its source", mesh.count(2, 0), 0);
+        CHECK.due("it leaves 1", mesh.count(1, 0), 1);
+        CHECK.due("fails are 0", mesh.count(1, 2), 0);
+    }
+
+    private static void aSourceTakesAGreaterNumberOfItsOwn() {
+        SlottedMesh mesh = turned();
+        mesh.run(18);
+        CHECK.due("time 44: the first", mesh.cached(2, 0), 5);
+        mesh.run(2);
+        CHECK.due("time 46: the second is taken by its source", mesh.count(2, 0), 1);
+        CHECK.due("1 has none", mesh.count(1, 0), 0);
+        mesh.run(8);
+        CHECK.due("time 54: and came to 0", mesh.cached(2, 0), 6);
+        CHECK.due("numbers go on", mesh.sample(2, 7), 3);
+    }
+
+    private static void joiningForgetsNoCommand() {
+        SlottedMesh mesh = Meshes.chain();
+        mesh.radio(0, Meshes.allBut(33, 34, 43, 44, 53, 54, 63), Meshes.allBut(24));
+        mesh.sample(2, 0);
+        mesh.run(15);
+        CHECK.due("time 25: 1 took the command", mesh.count(1, 1), 1);
+        CHECK.due("0 has it yet", mesh.count(0, 1), 1);
+        mesh.sample(1, 0);
+        mesh.run(39);
+        CHECK.due("time 64: 1 is not current", mesh.current(1), false);
+        mesh.run(10);
+        CHECK.due("time 74: it joined and sent its sample", mesh.latest(1), 1);
+        CHECK.due("five tries", mesh.count(0, 3), 5);
+        CHECK.due("two commands", mesh.count(0, 1), 2);
+        mesh.run(1);
+        CHECK.due("time 75: known to 1", mesh.count(1, 1), 0);
+        CHECK.due("it leaves 0", mesh.count(0, 1), 1);
+        CHECK.due("tries are 0", mesh.count(0, 3), 0);
     }
 }
